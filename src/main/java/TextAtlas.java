@@ -124,7 +124,7 @@ public final class TextAtlas {
         if (points > MOST_POINTS) {
             throw new IndexOutOfBoundsException();
         }
-        readTape(slots[t], length);
+        readTape(slots[t], points, length);
         return points;
     }
 
@@ -190,7 +190,9 @@ public final class TextAtlas {
         requireRange(kind, LOWER, FOLD);
         requireRange(locale, 0, 3);
         requireSealed();
-        requireRoom(casing.convert(slots[u], made, kind, locale));
+        boolean fits = kind == FOLD
+            ? casing.fold(slots[u], made, locale) : casing.convert(slots[u], made, kind, locale);
+        requireRoom(fits);
         return keepMade(t);
     }
 
@@ -343,19 +345,14 @@ public final class TextAtlas {
 
     private boolean foldForMatch(Text from, Text to, int kind) {
         if (kind == 0) {
-            return casing.convert(from, to, FOLD, 0);
+            return casing.fold(from, to, 0);
         }
-        if (!forms.convert(from, to, NFD)) {
-            return false;
+        int form = kind == 1 ? NFD : NFKD;
+        boolean fits = forms.convert(from, to, NFD);
+        for (int turn = 0; turn < kind && fits; turn++) {
+            fits = casing.fold(to, spare, 0) && forms.convert(spare, to, form);
         }
-        if (kind == 1) {
-            return foldAndConvert(to, NFD);
-        }
-        return foldAndConvert(to, NFKD) && foldAndConvert(to, NFKD);
-    }
-
-    private boolean foldAndConvert(Text text, int form) {
-        return casing.convert(text, spare, FOLD, 0) && forms.convert(spare, text, form);
+        return fits;
     }
 
     private static int levelsOf(int strength, boolean shifted) {
@@ -364,7 +361,8 @@ public final class TextAtlas {
 
     private int pointsOnTape(int length) {
         int points = 0;
-        for (int at = 0; at < length; points++) {
+        int at = 0;
+        for (; at < length && points < TAPE_BYTES; points++) {
             int point = decodeAt(at, length);
             if (point == NONE) {
                 return NONE;
@@ -374,9 +372,10 @@ public final class TextAtlas {
         return points;
     }
 
-    private void readTape(Text to, int length) {
+    private void readTape(Text to, int points, int length) {
+        int at = 0;
         to.length = 0;
-        for (int at = 0; at < length; ) {
+        for (int i = 0; i < points; i++) {
             int point = decodeAt(at, length);
             to.append(point);
             at += utf8Width(point);
@@ -384,7 +383,7 @@ public final class TextAtlas {
     }
 
     private int decodeAt(int at, int length) {
-        int lead = tape[at] & 0xFF;
+        int lead = at < length ? tape[at] & 0xFF : 0xFF;
         if (lead < 0x80) {
             return lead;
         }
@@ -592,7 +591,7 @@ public final class TextAtlas {
         }
 
         int classOf(int point) {
-            return spanOf(point).fact.combiningClass;
+            return spans[spanIndex(point)].fact.combiningClass;
         }
 
         int spanIndex(int point) {
@@ -771,21 +770,16 @@ public final class TextAtlas {
             if (data.lines >= MOST_LINES || !split(length, fieldsOf(kind))) {
                 return NONE;
             }
-            int told = takeKind(kind);
-            if (told != NONE) {
-                data.lines++;
-            }
-            return told;
-        }
-
-        private int takeKind(int kind) {
+            int told;
             switch (kind) {
-                case 0: return takeFact();
-                case 1: return takeSpecial();
-                case 2: return takeFold();
-                case 3: return takeProperty();
-                default: return takeEntry();
+                case 0: told = takeFact(); break;
+                case 1: told = takeSpecial(); break;
+                case 2: told = takeFold(); break;
+                case 3: told = takeProperty(); break;
+                default: told = takeEntry(); break;
             }
+            data.lines += told != NONE ? 1 : 0;
+            return told;
         }
 
         private static int fieldsOf(int kind) {
@@ -960,9 +954,10 @@ public final class TextAtlas {
         }
 
         private int readConditions(int begin, int stop) {
+            int many = countTokens(begin, stop);
             int conditions = 0;
             int at = begin;
-            while (at < stop) {
+            for (int k = 0; k < many; k++) {
                 int tokenStop = skipToken(at, stop);
                 int name = nameIndex(CONDITION_NAMES, at, tokenStop);
                 if (name == NONE || (conditions >> name & 1) != 0) {
@@ -1210,26 +1205,24 @@ public final class TextAtlas {
         boolean prepare() {
             used = 0;
             pairCount = 0;
-            return checkShapes() && expandAll() && gatherPairs();
+            if (!checkShapes()) {
+                return false;
+            }
+            for (int i = 0; i < data.spanCount; i++) {
+                Fact fact = data.spans[i].fact;
+                if (fact.row != null && fact.visit == UNSEEN && !expandFrom(fact)) {
+                    return false;
+                }
+            }
+            return gatherPairs();
         }
 
         private boolean checkShapes() {
             for (int i = 0; i < data.spanCount; i++) {
                 Fact fact = data.spans[i].fact;
                 fact.visit = UNSEEN;
-                if (fact.row != null) {
-                    if (isSyllable(fact.first) || !fact.compatible && fact.row.length > 2) {
-                        return false;
-                    }
-                }
-            }
-            return true;
-        }
-
-        private boolean expandAll() {
-            for (int i = 0; i < data.spanCount; i++) {
-                Fact fact = data.spans[i].fact;
-                if (fact.row != null && fact.visit == UNSEEN && !expandFrom(fact)) {
+                boolean tooLong = fact.row != null && !fact.compatible && fact.row.length > 2;
+                if (tooLong || fact.row != null && isSyllable(fact.first)) {
                     return false;
                 }
             }
@@ -1302,9 +1295,26 @@ public final class TextAtlas {
         }
 
         private boolean poolFull(int point, int start, boolean compatible) {
-            int many = fullLength(point, compatible);
+            if (isSyllable(point)) {
+                return poolSyllable(point, start);
+            }
+            Fact fact = data.spanOf(point).fact;
+            if (fact.row == null) {
+                return poolPoint(point, start);
+            }
+            int at = compatible ? fact.compatibleAt : fact.canonicalAt;
+            int many = compatible ? fact.compatibleLength : fact.canonicalLength;
             for (int k = 0; k < many; k++) {
-                if (!poolPoint(fullPoint(point, compatible, k), start)) {
+                if (!poolPoint(pool[at + k], start)) {
+                    return false;
+                }
+            }
+            return true;
+        }
+
+        private boolean poolSyllable(int point, int start) {
+            for (int k = 0; k < syllableLength(point); k++) {
+                if (!poolPoint(syllablePart(point, k), start)) {
                     return false;
                 }
             }
@@ -1329,17 +1339,6 @@ public final class TextAtlas {
                 return 1;
             }
             return compatible ? fact.compatibleLength : fact.canonicalLength;
-        }
-
-        private int fullPoint(int point, boolean compatible, int k) {
-            if (isSyllable(point)) {
-                return syllablePart(point, k);
-            }
-            Fact fact = data.spanOf(point).fact;
-            if (fact.row == null) {
-                return point;
-            }
-            return pool[(compatible ? fact.compatibleAt : fact.canonicalAt) + k];
         }
 
         /** Puts the FULL DECOMPOSITION behind the text; false if it has no room. */
@@ -1447,7 +1446,8 @@ public final class TextAtlas {
             if (head >= 0x1100 && head <= 0x1112 && tail >= 0x1161 && tail <= 0x1175) {
                 return FIRST_SYLLABLE + (head - 0x1100) * VOWEL_BLOCK + (tail - 0x1161) * TAIL_BLOCK;
             }
-            boolean open = isSyllable(head) && syllableLength(head) == 2;
+            int s = head - FIRST_SYLLABLE;
+            boolean open = s >= 0 && head <= LAST_SYLLABLE && s % TAIL_BLOCK == 0;
             return open && tail >= 0x11A8 && tail <= 0x11C2 ? head + tail - 0x11A7 : NONE;
         }
 
@@ -1507,6 +1507,7 @@ public final class TextAtlas {
             return true;
         }
 
+        /** Always true, so that it can end the chain of what may have no room. */
         private boolean finish(Text text, int form) {
             for (int i = 0; i < text.length; i++) {
                 classes[i] = data.classOf(text.points[i]);
@@ -1608,6 +1609,7 @@ public final class TextAtlas {
 
     /** Case and folding. */
     private static final class Casing {
+        private static final int KEEP = 4;
         private static final int CONDITION_COUNT = 9;
         private static final int DOT_ABOVE = 0x0307;
         private static final int CAPITAL_I = 0x0049;
@@ -1619,9 +1621,13 @@ public final class TextAtlas {
         private final Data data;
         private final Breaks breaks;
         private final int[] places = new int[MOST_POINTS];
+        private final int[] classes = new int[MOST_POINTS];
+        private final int[] traits = new int[MOST_POINTS];
+        private final boolean[] cased = new boolean[MOST_POINTS];
         private int[] points = new int[0];
         private int length;
         private int locale;
+        private boolean titled;
 
         Casing(Data data, Breaks breaks) {
             this.data = data;
@@ -1629,82 +1635,75 @@ public final class TextAtlas {
         }
 
         /** Makes to, another text than from; false if it has no room. */
-        boolean convert(Text from, Text to, int kind, int locale) {
-            load(from, locale);
-            to.length = 0;
-            if (kind == TITLE) {
-                breaks.load(from, WORDS);
-                return convertTitle(to);
-            }
-            for (int i = 0; i < length; i++) {
-                if (!appendMapped(to, i, kind)) {
-                    return false;
-                }
-            }
-            return true;
-        }
-
-        private void load(Text from, int locale) {
-            points = from.points;
-            length = from.length;
-            this.locale = locale;
-            for (int i = 0; i < length; i++) {
-                places[i] = data.spanIndex(points[i]);
-            }
-        }
-
-        private Span spanAt(int i) {
-            return data.spans[places[i]];
-        }
-
-        private int classAt(int i) {
-            return spanAt(i).fact.combiningClass;
-        }
-
-        private boolean convertTitle(Text to) {
-            boolean titled = false;
-            for (int i = 0; i < length; i++) {
-                titled = titled && !breaks.isBoundary(i);
-                boolean fits;
-                if (titled) {
-                    fits = appendMapped(to, i, LOWER);
-                } else if (isCased(i)) {
-                    titled = true;
-                    fits = appendMapped(to, i, TITLE);
-                } else {
-                    fits = to.append(points[i]);
-                }
-                if (!fits) {
-                    return false;
-                }
-            }
-            return true;
-        }
-
-        private boolean isCased(int i) {
-            int category = spanAt(i).fact.category;
-            return spanAt(i).hasTrait(CASED) || category == LU || category == LL || category == LT;
-        }
-
-        private boolean appendMapped(Text to, int i, int kind) {
-            int[] row = kind == FOLD ? foldRow(spanAt(i)) : specialRow(i, kind);
-            if (row != null) {
-                return to.appendRow(row, 0, row.length);
-            }
-            return to.append(kind == FOLD ? points[i] : ownCase(i, kind));
-        }
-
-        private int[] foldRow(Span span) {
+        boolean fold(Text from, Text to, int locale) {
             boolean turkic = locale == 1 || locale == 2;
+            boolean fits = true;
+            to.length = 0;
+            for (int i = 0; i < from.length && fits; i++) {
+                int[] row = foldRow(data.spanOf(from.points[i]), turkic);
+                fits = row != null ? to.appendRow(row, 0, row.length) : to.append(from.points[i]);
+            }
+            return fits;
+        }
+
+        private static int[] foldRow(Span span, boolean turkic) {
             if (turkic && span.foldTurkic != null) {
                 return span.foldTurkic;
             }
             return span.foldFull != null ? span.foldFull : span.foldCommon;
         }
 
+        /** By lower, upper or title; makes to, another text than from; false if it has no room. */
+        boolean convert(Text from, Text to, int kind, int locale) {
+            load(from, locale);
+            if (kind == TITLE) {
+                breaks.load(from, WORDS);
+            }
+            boolean fits = true;
+            to.length = 0;
+            for (int i = 0; i < length && fits; i++) {
+                int step = kind == TITLE ? titleStep(i) : kind;
+                fits = step == KEEP ? to.append(points[i]) : appendMapped(to, i, step);
+            }
+            return fits;
+        }
+
+        /** What title does to POINT i, when it was asked of all before it. */
+        private int titleStep(int i) {
+            titled = titled && !breaks.isBoundary(i);
+            if (titled) {
+                return LOWER;
+            }
+            titled = cased[i];
+            return titled ? TITLE : KEEP;
+        }
+
+        private void load(Text from, int locale) {
+            points = from.points;
+            length = from.length;
+            this.locale = locale;
+            titled = false;
+            for (int i = 0; i < length; i++) {
+                places[i] = data.spanIndex(points[i]);
+                Span span = data.spans[places[i]];
+                int category = span.fact.category;
+                classes[i] = span.fact.combiningClass;
+                traits[i] = span.traits;
+                cased[i] = span.hasTrait(CASED) || category == LU || category == LL || category == LT;
+            }
+        }
+
+        private boolean appendMapped(Text to, int i, int kind) {
+            int[] row = specialRow(i, kind);
+            if (row != null) {
+                return to.appendRow(row, 0, row.length);
+            }
+            return to.append(ownCase(i, kind));
+        }
+
         private int[] specialRow(int i, int kind) {
             int[] plain = null;
-            for (Special special = spanAt(i).special; special != null; special = special.later) {
+            for (Special special = data.spans[places[i]].special; special != null; special = special.later) {
                 if (special.conditions == 0) {
                     plain = special.rowFor(kind);
                 } else if (allHold(special.conditions, i)) {
@@ -1715,7 +1714,7 @@ public final class TextAtlas {
         }
 
         private int ownCase(int i, int kind) {
-            Fact fact = spanAt(i).fact;
+            Fact fact = data.spans[places[i]].fact;
             int mapped = kind == LOWER ? fact.lower : fact.upper;
             if (kind == TITLE && fact.title != NONE) {
                 mapped = fact.title;
@@ -1749,66 +1748,50 @@ public final class TextAtlas {
 
         private boolean casedBefore(int i) {
             int k = i - 1;
-            while (k >= 0 && spanAt(k).hasTrait(CASE_IGNORABLE)) {
+            while (k >= 0 && (traits[k] & CASE_IGNORABLE) != 0) {
                 k--;
             }
-            return k >= 0 && isCased(k);
+            return k >= 0 && cased[k];
         }
 
         private boolean casedBehind(int i) {
             int k = i + 1;
-            while (k < length && spanAt(k).hasTrait(CASE_IGNORABLE)) {
+            while (k < length && (traits[k] & CASE_IGNORABLE) != 0) {
                 k++;
             }
-            return k < length && isCased(k);
+            return k < length && cased[k];
         }
 
         private boolean softDottedBefore(int i) {
-            for (int k = i - 1; k >= 0; k--) {
-                if (spanAt(k).hasTrait(SOFT_DOTTED)) {
-                    return true;
-                }
-                if (classAt(k) == 0 || classAt(k) == ABOVE) {
-                    return false;
-                }
+            int k = i - 1;
+            while (k >= 0 && (traits[k] & SOFT_DOTTED) == 0 && classes[k] != 0 && classes[k] != ABOVE) {
+                k--;
             }
-            return false;
+            return k >= 0 && (traits[k] & SOFT_DOTTED) != 0;
         }
 
         private boolean aboveBehind(int i) {
-            for (int k = i + 1; k < length; k++) {
-                if (classAt(k) == ABOVE) {
-                    return true;
-                }
-                if (classAt(k) == 0) {
-                    return false;
-                }
+            int k = i + 1;
+            while (k < length && classes[k] != 0 && classes[k] != ABOVE) {
+                k++;
             }
-            return false;
+            return k < length && classes[k] == ABOVE;
         }
 
         private boolean dotBehind(int i) {
-            for (int k = i + 1; k < length; k++) {
-                if (points[k] == DOT_ABOVE) {
-                    return true;
-                }
-                if (classAt(k) == 0 || classAt(k) == ABOVE) {
-                    return false;
-                }
+            int k = i + 1;
+            while (k < length && points[k] != DOT_ABOVE && classes[k] != 0 && classes[k] != ABOVE) {
+                k++;
             }
-            return false;
+            return k < length && points[k] == DOT_ABOVE;
         }
 
         private boolean capitalIBefore(int i) {
-            for (int k = i - 1; k >= 0; k--) {
-                if (points[k] == CAPITAL_I) {
-                    return true;
-                }
-                if (classAt(k) == 0 || classAt(k) == ABOVE) {
-                    return false;
-                }
+            int k = i - 1;
+            while (k >= 0 && points[k] != CAPITAL_I && classes[k] != 0 && classes[k] != ABOVE) {
+                k--;
             }
-            return false;
+            return k >= 0 && points[k] == CAPITAL_I;
         }
     }
 
