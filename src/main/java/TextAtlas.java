@@ -30,6 +30,7 @@ public final class TextAtlas {
 
     private static final int GRAPHEMES = 0;
     private static final int WORDS = 1;
+    private static final int TRAIT = 2;
 
     private static final String TRAIT_NAMES =
         "Composition_Exclusion Case_Ignorable Cased Soft_Dotted Extended_Pictographic Unified_Ideograph";
@@ -437,6 +438,21 @@ public final class TextAtlas {
         }
     }
 
+    /** How many of the sorted ones are below the one sought. */
+    private static int placeOf(long sought, long[] sorted, int many) {
+        int low = 0;
+        int high = many;
+        while (low < high) {
+            int middle = (low + high) >>> 1;
+            if (sorted[middle] < sought) {
+                low = middle + 1;
+            } else {
+                high = middle;
+            }
+        }
+        return low;
+    }
+
     /** A row of POINTS with the document's bound. */
     private static final class Text {
         final int[] points = new int[MOST_POINTS];
@@ -513,9 +529,8 @@ public final class TextAtlas {
         }
     }
 
-    /** A LINE 4: its ROW packed so that a longer row comes right behind its beginnings. */
+    /** A LINE 4; its ROW is packed into a number, and how many POINTS that has is kept here. */
     private static final class Entry {
-        long packed;
         int length;
         long[] elements;
     }
@@ -555,6 +570,16 @@ public final class TextAtlas {
             special = null;
         }
 
+        void setProperty(int group, int name) {
+            if (group == TRAIT) {
+                traits |= 1 << name;
+            } else if (group == GRAPHEMES) {
+                graphemeBreak = name;
+            } else {
+                wordBreak = name;
+            }
+        }
+
         boolean hasTrait(int trait) {
             return (traits & trait) != 0;
         }
@@ -564,6 +589,8 @@ public final class TextAtlas {
     private static final class Data {
         final Span[] spans = new Span[MOST_SPANS];
         int spanCount;
+        // Sorted; packed so that a longer row comes right behind its beginnings.
+        final long[] rows = new long[MOST_LINES];
         final Entry[] entries = new Entry[MOST_LINES];
         int entryCount;
         int lines;
@@ -642,27 +669,11 @@ public final class TextAtlas {
             }
         }
 
-        void tellTrait(int first, int last, int trait) {
+        void tellProperty(int first, int last, int group, int name) {
             int from = cutBefore(first);
             int to = cutBefore(last + 1);
             for (int i = from; i < to; i++) {
-                spans[i].traits |= trait;
-            }
-        }
-
-        void tellGraphemeBreak(int first, int last, int value) {
-            int from = cutBefore(first);
-            int to = cutBefore(last + 1);
-            for (int i = from; i < to; i++) {
-                spans[i].graphemeBreak = value;
-            }
-        }
-
-        void tellWordBreak(int first, int last, int value) {
-            int from = cutBefore(first);
-            int to = cutBefore(last + 1);
-            for (int i = from; i < to; i++) {
-                spans[i].wordBreak = value;
+                spans[i].setProperty(group, name);
             }
         }
 
@@ -690,9 +701,9 @@ public final class TextAtlas {
             }
         }
 
-        void tellEntry(Entry entry) {
-            int place = entryPlace(entry.packed);
-            if (place < entryCount && entries[place].packed == entry.packed) {
+        void tellEntry(long row, Entry entry) {
+            int place = placeOf(row, rows, entryCount);
+            if (place < entryCount && rows[place] == row) {
                 entries[place] = entry;
                 return;
             }
@@ -700,30 +711,17 @@ public final class TextAtlas {
                 return;
             }
             for (int i = entryCount; i > place; i--) {
+                rows[i] = rows[i - 1];
                 entries[i] = entries[i - 1];
             }
+            rows[place] = row;
             entries[place] = entry;
             entryCount++;
         }
 
-        /** How many rows come before the packed one. */
-        private int entryPlace(long packed) {
-            int low = 0;
-            int high = entryCount;
-            while (low < high) {
-                int middle = (low + high) >>> 1;
-                if (entries[middle].packed < packed) {
-                    low = middle + 1;
-                } else {
-                    high = middle;
-                }
-            }
-            return low;
-        }
-
-        int entryIndex(long packed) {
-            int place = entryPlace(packed);
-            return place < entryCount && entries[place].packed == packed ? place : NONE;
+        int entryIndex(long row) {
+            int place = placeOf(row, rows, entryCount);
+            return place < entryCount && rows[place] == row ? place : NONE;
         }
 
         boolean hasLonger(int index) {
@@ -731,12 +729,12 @@ public final class TextAtlas {
                 return false;
             }
             int rest = POINT_BITS * (3 - entries[index].length);
-            return rest > 0 && entries[index].packed >>> rest == entries[index + 1].packed >>> rest;
+            return rest > 0 && rows[index] >>> rest == rows[index + 1] >>> rest;
         }
 
         /** A packed row with one POINT more at a place 0 .. 2; POINT 0 is kept apart from nothing. */
-        static long packAt(long packed, int place, int point) {
-            return packed | (long) (point + 1) << POINT_BITS * (2 - place);
+        static long packAt(long row, int place, int point) {
+            return row | (long) (point + 1) << POINT_BITS * (2 - place);
         }
     }
 
@@ -984,29 +982,23 @@ public final class TextAtlas {
         }
 
         private int takeProperty() {
-            if (!readCodes() || !tellProperty(from[1], to[1])) {
+            if (!readCodes()) {
                 return NONE;
             }
+            int group = TRAIT;
+            int name = nameIndex(TRAIT_NAMES, from[1], to[1]);
+            if (startsWith("GCB=", from[1], to[1])) {
+                group = GRAPHEMES;
+                name = nameIndex(GRAPHEME_NAMES, from[1] + 4, to[1]);
+            } else if (startsWith("WB=", from[1], to[1])) {
+                group = WORDS;
+                name = nameIndex(WORD_NAMES, from[1] + 3, to[1]);
+            }
+            if (name == NONE) {
+                return NONE;
+            }
+            data.tellProperty(first, last, group, name);
             return last - first + 1;
-        }
-
-        private boolean tellProperty(int begin, int stop) {
-            int trait = nameIndex(TRAIT_NAMES, begin, stop);
-            if (trait != NONE) {
-                data.tellTrait(first, last, 1 << trait);
-                return true;
-            }
-            int grapheme = startsWith("GCB=", begin, stop) ? nameIndex(GRAPHEME_NAMES, begin + 4, stop) : NONE;
-            if (grapheme != NONE) {
-                data.tellGraphemeBreak(first, last, grapheme);
-                return true;
-            }
-            int word = startsWith("WB=", begin, stop) ? nameIndex(WORD_NAMES, begin + 3, stop) : NONE;
-            if (word != NONE) {
-                data.tellWordBreak(first, last, word);
-                return true;
-            }
-            return false;
         }
 
         private boolean startsWith(String mark, int begin, int stop) {
@@ -1048,13 +1040,14 @@ public final class TextAtlas {
             if (row == null || elements == null) {
                 return NONE;
             }
-            Entry entry = new Entry();
+            long packed = 0;
             for (int k = 0; k < row.length; k++) {
-                entry.packed = Data.packAt(entry.packed, k, row[k]);
+                packed = Data.packAt(packed, k, row[k]);
             }
+            Entry entry = new Entry();
             entry.length = row.length;
             entry.elements = elements;
-            data.tellEntry(entry);
+            data.tellEntry(packed, entry);
             return row.length;
         }
 
@@ -1409,7 +1402,7 @@ public final class TextAtlas {
 
         private boolean insertPair(int head, int tail, int composite) {
             long pair = packPair(head, tail);
-            int place = pairPlace(pair);
+            int place = placeOf(pair, pairs, pairCount);
             boolean taken = place < pairCount && pairs[place] == pair;
             if (taken || syllableOf(head, tail) != NONE || pairCount >= MOST_LINES) {
                 return false;
@@ -1428,20 +1421,6 @@ public final class TextAtlas {
             return (long) head << POINT_BITS | tail;
         }
 
-        private int pairPlace(long pair) {
-            int low = 0;
-            int high = pairCount;
-            while (low < high) {
-                int middle = (low + high) >>> 1;
-                if (pairs[middle] < pair) {
-                    low = middle + 1;
-                } else {
-                    high = middle;
-                }
-            }
-            return low;
-        }
-
         private static int syllableOf(int head, int tail) {
             if (head >= 0x1100 && head <= 0x1112 && tail >= 0x1161 && tail <= 0x1175) {
                 return FIRST_SYLLABLE + (head - 0x1100) * VOWEL_BLOCK + (tail - 0x1161) * TAIL_BLOCK;
@@ -1458,7 +1437,7 @@ public final class TextAtlas {
                 return syllable;
             }
             long pair = packPair(head, tail);
-            int place = pairPlace(pair);
+            int place = placeOf(pair, pairs, pairCount);
             return place < pairCount && pairs[place] == pair ? composites[place] : NONE;
         }
 
@@ -2049,7 +2028,7 @@ public final class TextAtlas {
             int begin = at + data.entries[index].length;
             int passed = 0;
             for (int k = begin; k < rest.length && classes[k] > 0 && data.hasLonger(index); k++) {
-                int longer = classes[k] > passed ? longerEntry(data.entries[index], rest.points[k]) : NONE;
+                int longer = classes[k] > passed ? longerEntry(index, rest.points[k]) : NONE;
                 if (longer == NONE) {
                     passed = Math.max(passed, classes[k]);
                 } else {
@@ -2066,18 +2045,19 @@ public final class TextAtlas {
         }
 
         private int longestEntry(int at) {
-            long packed = 0;
+            long row = 0;
             int longest = NONE;
             for (int k = 0; k < 3 && at + k < rest.length; k++) {
-                packed = Data.packAt(packed, k, rest.points[at + k]);
-                int index = data.entryIndex(packed);
+                row = Data.packAt(row, k, rest.points[at + k]);
+                int index = data.entryIndex(row);
                 longest = index != NONE ? index : longest;
             }
             return longest;
         }
 
-        private int longerEntry(Entry entry, int point) {
-            return entry.length < 3 ? data.entryIndex(Data.packAt(entry.packed, entry.length, point)) : NONE;
+        private int longerEntry(int index, int point) {
+            int length = data.entries[index].length;
+            return length < 3 ? data.entryIndex(Data.packAt(data.rows[index], length, point)) : NONE;
         }
 
         /** What was passed over moves up to where the taken one stood. */

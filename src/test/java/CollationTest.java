@@ -178,6 +178,16 @@ final class CollationTest {
         x.add(2, 0x43);
         Bench.bounds("65538 bytes", () -> x.key(2, 2, false));
         Bench.due("32768 bytes", x.key(2, 1, false), 32768);
+        x.part(2, 0, 0, 796);
+        x.join(2, 0, 2, 0);
+        for (int i = 0; i < 8; i++) {
+            x.add(2, 0x43);
+        }
+        Bench.due("65536 bytes", x.key(2, 1, false), 65536);
+        Bench.due("the last ones", Long.toHexString(x.word(65534)), "1000000000000000");
+        x.add(2, 0x43);
+        Bench.bounds("65538 bytes of one level", () -> x.key(2, 1, false));
+        Bench.due("result stays", x.count(1), 65536);
         x.part(3, 0, 0, 1000);
         x.part(4, 3, 0, 999);
         x.add(3, 0x44);
