@@ -113,7 +113,8 @@ final class BreaksTest {
 
     private static void words() {
         words("| Other | Other |", "| CR LF |", "| LF | CR |", "| Newline | Newline |", "| Other | CR | Extend Extend | LF |",
-            "| ALetter | Newline | ALetter |", "| ZWJ Pic |", "| Other ZWJ Pic |", "| ZWJ Extend | Pic |", "| Pic | Pic |",
+            "| ALetter | Newline | ALetter |", "| LF | Extend |", "| Newline | Extend | ALetter |", "| CR | ZWJ Pic |",
+            "| LF | Format Extend | ALetter |", "| Extend | LF |", "| ZWJ | Newline |", "| CR | Pic |", "| ZWJ Pic |", "| Other ZWJ Pic |", "| ZWJ Extend | Pic |", "| Pic | Pic |",
             "| WSegSpace WSegSpace |", "| WSegSpace Extend | WSegSpace |", "| Other Extend Format ZWJ |", "| Extend Format | Other |");
         words("| ALetter ALetter Hebrew_Letter |", "| ALetter Extend ZWJ ALetter |", "| Extend | ALetter |", "| CR | Format | ALetter |",
             "| ALetter MidLetter ALetter |", "| ALetter MidNumLet Hebrew_Letter |", "| ALetter Single_Quote ALetter |",

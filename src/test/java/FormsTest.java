@@ -112,6 +112,11 @@ final class FormsTest {
         form(b, 2, "0041 1100 1161 030A", "00C5 AC00");
         form(b, 2, "0041 1100 1161 030A 030A", "00C5 AC00 030A");
         Bench.due("excluded", b.atlas.about(0xAC00, 7), 1);
+        Bench high = new Bench().lines(0, "AC00;Lo;235;;;;", "1161;Lo;225;;;;", "00C5;Lu;0;0041 030A;;;", "030A;Mn;230;;;;", "0323;Mn;220;;;;");
+        high.sealed();
+        form(high, 2, "0041 1100 1161 030A", "0041 AC00 030A");
+        form(high, 2, "0041 1100 0323 1161 030A", "0041 AC00 0323 030A");
+        form(high, 2, "0041 0323 030A", "00C5 0323");
     }
 
     private static void order() {
@@ -179,5 +184,11 @@ final class FormsTest {
         Bench.bounds("compatible, composed", () -> x.normal(4, 4, 3));
         Bench.due("is not", x.is(4, 3), false);
         Bench.due("canonical has 1024", x.normal(4, 4, 0), 1024);
+        Bench hangul = new Bench().sealed().write(0, "\uAC01".repeat(666)).put(1, "1100 1161").put(2, "AC01").put(3, "AC00");
+        Bench.due("666 syllables", hangul.atlas.normal(4, 0, 2), 666);
+        Bench.due("and two", hangul.atlas.join(4, 0, 1, 0), 2000);
+        Bench.due("and one of two", hangul.atlas.join(4, 0, 3, 2), 667);
+        Bench.bounds("and one of three", () -> hangul.atlas.join(4, 0, 2, 2));
+        Bench.due("text stays", hangul.atlas.size(4), 667);
     }
 }

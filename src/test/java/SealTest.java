@@ -38,6 +38,9 @@ final class SealTest {
         unsound("three points", "0041;Lu;0;0042 0043 0044;;;");
         sound("three points, compatible", 0, "0041;Lu;0;<a>0042 0043 0044;;;");
         sound("one point", 0, "0041;Lu;0;0042;;;");
+        sound("of the first point", 1, "0000;Lu;0;0042 0043;;;");
+        unsound("three points, of the first point", "0000;Lu;0;0042 0043 0044;;;");
+        unsound("of the last point", "10FFFF;Lu;0;0042 10FFFF;;;");
         sound("replaced", 0, "0041;Lu;0;0042 0043 0044;;;", "0040..0042;Lu;0;;;;");
     }
 
@@ -54,6 +57,9 @@ final class SealTest {
         String ten = "<a>0050 0050 0050 0050 0050 0050 0050 0050 0050 0050";
         sound("forty", 0, "0041;Lu;0;<a>0042 0042 0042 0042;;;", "0042;Lu;0;" + ten + ";;;");
         unsound("forty-one", "0041;Lu;0;<a>0042 0042 0042 0042 0043;;;", "0042;Lu;0;" + ten + ";;;");
+        String syllables = " AC01".repeat(13);
+        sound("forty with syllables", 0, "0041;Lu;0;<a>" + syllables + " 0050;;;");
+        unsound("forty-one with syllables", "0041;Lu;0;<a>" + syllables + " AC00;;;");
         unsound("far more", "0041;Lu;0;0042 0042;;;", "0042;Lu;0;0043 0043;;;", "0043;Lu;0;0044 0044;;;",
             "0044;Lu;0;0045 0045;;;", "0045;Lu;0;0046 0046;;;", "0046;Lu;0;0047 0047;;;");
         sound("thirty-two", 5, "0041;Lu;0;0042 0042;;;", "0042;Lu;0;0043 0043;;;", "0043;Lu;0;0044 0044;;;",

@@ -40,6 +40,8 @@ final class TextTest {
             Bench.due("tape is empty", b.atlas.count(0), 0);
             Bench.due("text stays", b.show(1), "0058");
         }
+        b.tape("\u00c2\u0080").atlas.end(1);
+        Bench.unsupported("what was cut is not read", () -> b.atlas.text(1));
     }
 
     private static void longText() {
