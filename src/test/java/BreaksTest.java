@@ -10,6 +10,10 @@ final class BreaksTest {
         graphemes();
         words();
         nextOnes();
+        graphemePairs();
+        wordPairs();
+        regionalRuns();
+        ends();
         untold();
         Bench.finish();
     }
@@ -148,6 +152,83 @@ final class BreaksTest {
         Bench.due("CR LF", g.atlas.next(0, 0, 2, false), 4);
         Bench.due("back", g.atlas.next(0, 0, 4, true), 2);
         Bench.due("back from within", g.atlas.next(0, 0, 3, true), 2);
+    }
+
+    private static boolean among(String names, String name) {
+        return (" " + names + " ").contains(" " + name + " ");
+    }
+
+    private static boolean pairIs(String pairs, String a, String b) {
+        for (String pair : pairs.split(" ; ")) {
+            String[] sides = pair.split(" x ");
+            if (among(sides[0], a) && among(sides[1], b)) {
+                return true;
+            }
+        }
+        return false;
+    }
+
+    /** Each value beside each. */
+    private static void graphemePairs() {
+        String joined = "CR x LF ; L x L V LV LVT ; LV V x V T ; LVT T x T ; Regional_Indicator x Regional_Indicator";
+        String control = "CR LF Control";
+        pairs("GCB", GCB, 0, (a, b) -> {
+            boolean free = !among(control, a) && !among(control, b);
+            return !(pairIs(joined, a, b) || free && (among("Extend ZWJ SpacingMark", b) || a.equals("Prepend")));
+        });
+    }
+
+    private static void wordPairs() {
+        String letters = "ALetter Hebrew_Letter Numeric";
+        String joined = "CR x LF ; WSegSpace x WSegSpace ; " + letters + " x " + letters + " ; Hebrew_Letter x Single_Quote ; Katakana x Katakana ; "
+            + letters + " Katakana ExtendNumLet x ExtendNumLet ; ExtendNumLet x " + letters + " Katakana ; Regional_Indicator x Regional_Indicator";
+        String lineEnd = "CR LF Newline";
+        pairs("WB", WB, 1, (a, b) -> {
+            boolean free = !among(lineEnd, a) && !among(lineEnd, b);
+            return !(pairIs(joined, a, b) || free && among("Extend Format ZWJ", b));
+        });
+    }
+
+    private static void pairs(String prefix, String names, int kind, java.util.function.BiPredicate<String, String> boundary) {
+        String[] all = names.split(" ");
+        for (String a : all) {
+            Bench b = told(prefix, names);
+            for (String c : all) {
+                broken(b, kind, names, boundary.test(a, c) ? "| " + a + " | " + c + " |" : "| " + a + " " + c + " |");
+            }
+        }
+    }
+
+    /** An odd number before a place, or an even one, from 1 to 9. */
+    private static void regionalRuns() {
+        for (int kind = 0; kind < 2; kind++) {
+            Bench b = new Bench().lines(3, "0041;GCB=Regional_Indicator", "0041;WB=Regional_Indicator").sealed();
+            for (String before : new String[] {"", "42 "}) {
+                b.put(0, before + "41 ".repeat(9));
+                int start = b.atlas.size(0) - 9;
+                for (int i = 1; i < 9; i++) {
+                    Bench.due(i + " before, behind '" + before + "'", b.atlas.edge(0, kind, start + i), i % 2 == 0);
+                }
+                Bench.due("at both ends", b.atlas.edge(0, kind, 0) && b.atlas.edge(0, kind, start + 9), true);
+            }
+        }
+    }
+
+    /** At both ends there is a boundary, whatever stands there. */
+    private static void ends() {
+        for (int kind = 0; kind < 2; kind++) {
+            String names = kind == 0 ? GCB : WB;
+            Bench b = told(kind == 0 ? "GCB" : "WB", names);
+            for (int k = 0; k < names.split(" ").length; k++) {
+                b.put(0, Integer.toHexString(0x1000 + k));
+                Bench.due("before " + k, b.atlas.edge(0, kind, 0), true);
+                Bench.due("behind " + k, b.atlas.edge(0, kind, 1), true);
+                Bench.due("next of " + k, b.atlas.next(0, kind, 0, false), 1);
+                Bench.due("next back of " + k, b.atlas.next(0, kind, 1, true), 0);
+                Bench.due("none behind " + k, b.atlas.next(0, kind, 1, false), -1);
+                Bench.due("none before " + k, b.atlas.next(0, kind, 0, true), -1);
+            }
+        }
     }
 
     private static void untold() {

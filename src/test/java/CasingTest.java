@@ -11,7 +11,11 @@ final class CasingTest {
         moreAbove();
         dots();
         afterI();
+        classEdges();
+        cased();
+        foldLetters();
         title();
+        titleWords();
         limits();
         Bench.finish();
     }
@@ -140,6 +144,9 @@ final class CasingTest {
         change(b, 0, 0, "0049 0300 0307 0041 0300 0307", "0069 0300 0307 0002 0300 0307");
         change(b, 0, 0, "0049 0020 0307 0041 0020 0307", "0069 0020 0307 0002 0020 0307");
         change(b, 0, 0, "0049 0041", "0069 0002");
+        change(b, 0, 0, "0307 0049", "0307 0069");
+        change(b, 0, 0, "0049", "0069");
+        change(b, 0, 0, "0041", "0002");
         Bench untold = new Bench().lines(1, "0049;0001;;;Before_Dot").sealed();
         change(untold, 0, 0, "0049 0307", "0001 0307");
     }
@@ -152,6 +159,75 @@ final class CasingTest {
         change(b, 0, 0, "0049 0020 0307", "0069 0020 0307");
         change(b, 0, 0, "0069 0307 0307", "0069 0307 0307");
         change(b, 0, 0, "0049 0307 0307", "0069 0307");
+        change(b, 0, 0, "0307 0049", "0307 0069");
+    }
+
+    /** What may stand between: a point of each of the classes around 0 and 230. */
+    private static void classEdges() {
+        for (int told : new int[] {0, 1, 229, 230, 231, 254}) {
+            String fact = "2000;Mn;" + told + ";;;;";
+            Bench b = letters().lines(0, fact).lines(1, "0307;;;;After_Soft_Dotted", "0049;0001;;;More_Above", "0061;0002;;;Before_Dot",
+                "0042;0003;;;Not_Before_Dot").sealed();
+            boolean through = told != 0 && told != 230;
+            change(b, 1, 0, "006A 2000 0307", through ? "006A 2000" : "006A 2000 0307");
+            change(b, 0, 0, "0049 2000 0300", told != 0 ? "0001 2000 0300" : "0069 2000 0300");
+            change(b, 0, 0, "0049 2000", told == 230 ? "0001 2000" : "0069 2000");
+            change(b, 0, 0, "0061 2000 0307", through ? "0002 2000 0307" : "0061 2000 0307");
+            change(b, 0, 0, "0042 2000 0307", through ? "0042 2000 0307" : "0003 2000 0307");
+            Bench afterI = letters().lines(0, fact).lines(1, "0307;;;;After_I").sealed();
+            change(afterI, 0, 0, "0049 2000 0307", through ? "0069 2000" : "0069 2000 0307");
+        }
+    }
+
+    /** Cased, or category Lu, Ll, Lt; nothing else. */
+    private static void cased() {
+        String[] categories = {"Lu", "Ll", "Lt", "Lm", "Lo", "Mn", "Nl", "Ku", "Mu", "Lv", "Lk"};
+        Bench b = new Bench().lines(1, "03A3;03C2;;;Final_Sigma").lines(3, "2100;Cased");
+        for (int k = 0; k < categories.length; k++) {
+            b.lines(0, String.format("%04X;%s;0;;;;", 0x2000 + k, categories[k]));
+        }
+        b.sealed();
+        for (int k = 0; k < categories.length; k++) {
+            String c = String.format("%04X", 0x2000 + k);
+            change(b, 0, 0, c + " 03A3", c + (k < 3 ? " 03C2" : " 03A3"));
+            change(b, 0, 0, "2100 03A3 " + c, k < 3 ? "2100 03A3 " + c : "2100 03C2 " + c);
+        }
+        change(b, 0, 0, "2101 03A3", "2101 03A3");
+        change(b, 0, 0, "2100 03A3", "2100 03C2");
+    }
+
+    /** T in locales 1 and 2, else F, else C, else itself: all sets of letters in all locales. */
+    private static void foldLetters() {
+        String letters = "CFST";
+        for (int set = 0; set < 16; set++) {
+            Bench b = new Bench();
+            for (int k = 0; k < 4; k++) {
+                if ((set >> k & 1) != 0) {
+                    b.lines(2, "0041;" + letters.charAt(k) + ";000" + (k + 1));
+                }
+            }
+            b.sealed();
+            for (int locale = 0; locale < 4; locale++) {
+                boolean turkic = (set & 8) != 0 && (locale == 1 || locale == 2);
+                change(b, 3, locale, "0041", turkic ? "0004" : (set & 2) != 0 ? "0002" : (set & 1) != 0 ? "0001" : "0041");
+            }
+        }
+    }
+
+    private static void titleWords() {
+        Bench b = letters().lines(3, "0061..007A;WB=ALetter", "0041..005A;WB=ALetter", "0300..0345;WB=Extend", "0020;WB=WSegSpace").sealed();
+        change(b, 2, 0, "0061", "0041");
+        change(b, 2, 0, "0061 0061", "0041 0061");
+        change(b, 2, 0, "0300 0061 0061", "0300 0041 0061");
+        change(b, 2, 0, "0061 0300 0061", "0041 0300 0061");
+        change(b, 2, 0, "0042 0043 0061 0041", "0042 0043 0041 0061");
+        change(b, 2, 0, "0020 0020 0061", "0020 0020 0041");
+        change(b, 2, 0, "0061 0020 0061 0020", "0041 0020 0041 0020");
+        change(b, 2, 0, "0061 0345 0041", "0041 0345 0061");
+        change(b, 2, 0, "0020", "0020");
+        Bench whole = letters().lines(1, "0061;0001;0002;;Final_Sigma").lines(3, "0061;WB=ALetter").sealed();
+        change(whole, 2, 0, "0061 0020 0061 0061", "0041 0020 0041 0001");
+        change(whole, 2, 0, "0041 0061", "0041 0002");
     }
 
     private static void title() {

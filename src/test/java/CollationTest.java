@@ -4,7 +4,10 @@ final class CollationTest {
         throwing();
         levels();
         implicit();
+        implicitEdges();
+        weightEdges();
         contractions();
+        contractionEdges();
         gaps();
         shifted();
         compare();
@@ -76,6 +79,88 @@ final class CollationTest {
         key(b, "D800", 1, false, "FBC1 D800");
     }
 
+    /** p / 8000 and p mod 8000, where they change. */
+    private static void implicitEdges() {
+        String[][] due = {{"0000", "00", "8000"}, {"7FFF", "00", "FFFF"}, {"8000", "01", "8000"}, {"FFFF", "01", "FFFF"}, {"10000", "02", "8000"},
+            {"17FFF", "02", "FFFF"}, {"18000", "03", "8000"}, {"FFFFF", "1F", "FFFF"}, {"100000", "20", "8000"}, {"10FFFF", "21", "FFFF"}};
+        Bench plain = new Bench().sealed();
+        Bench unified = new Bench().lines(3, "0000..10FFFF;Unified_Ideograph").sealed();
+        for (String[] row : due) {
+            int more = Integer.parseInt(row[1], 16);
+            key(plain, row[0], 2, false, String.format("%04X %s 0000 0020", 0xFBC0 + more, row[2]));
+            key(unified, row[0], 3, false, String.format("%04X %s 0000 0020 0000 0002", 0xFB40 + more, row[2]));
+            key(plain, row[0], 4, true, String.format("%04X %s 0000 0020 0000 0002 0000 FFFF FFFF", 0xFBC0 + more, row[2]));
+        }
+    }
+
+    /** Weights as two bytes without sign, the higher first, at each level. */
+    private static void weightEdges() {
+        String[] weights = {"0000", "0001", "00FF", "0100", "0101", "7FFF", "8000", "8001", "FF00", "FFFF"};
+        String[] shapes = {"[.%s.0001.0001]", "[.0001.%s.0001]", "[.0001.0001.%s]", "[*%s.0001.0001]"};
+        for (int level = 1; level <= 4; level++) {
+            Bench b = new Bench();
+            for (int k = 0; k < weights.length; k++) {
+                b.lines(4, String.format("%04X;" + shapes[level - 1], 0x41 + k, weights[k]));
+            }
+            b.sealed();
+            for (int k = 1; k < weights.length; k++) {
+                if (level < 4 || k > 1) {
+                    order(b, Integer.toHexString(0x41 + k - 1), Integer.toHexString(0x41 + k), level, level == 4, -1);
+                }
+                if (level > 1 && (level < 4 || k > 1)) {
+                    order(b, Integer.toHexString(0x41 + k - 1), Integer.toHexString(0x41 + k), level - 1, level == 4, 0);
+                }
+            }
+        }
+    }
+
+    /** Rows of one, two and three points, each without those that it begins with. */
+    private static void contractionEdges() {
+        Bench three = new Bench().lines(4, "0041 0042 0043;[.1000.0000.0000]").sealed();
+        key(three, "0041 0042 0043", 1, false, "1000");
+        key(three, "0041 0042", 1, false, "FBC0 8041 FBC0 8042");
+        key(three, "0041 0042 0043 0041 0042 0043", 1, false, "1000 1000");
+        key(three, "0041 0041 0042 0043", 1, false, "FBC0 8041 1000");
+        Bench ends = new Bench().lines(4, "0000;[.1000.0000.0000]", "0000 0000;[.1001.0000.0000]", "10FFFF 10FFFF 10FFFF;[.1002.0000.0000]").sealed();
+        key(ends, "FFFF 10FFFF 10FFFF", 1, false, "FBC1 FFFF FBE1 FFFF FBE1 FFFF");
+        key(ends, "10FFFF 10FFFF FFFF", 1, false, "FBE1 FFFF FBE1 FFFF FBC1 FFFF");
+        key(ends, "0000", 1, false, "1000");
+        key(ends, "0000 0000", 1, false, "1001");
+        key(ends, "0000 0000 0000", 1, false, "1001 1000");
+        key(ends, "10FFFF 10FFFF 10FFFF 10FFFF", 1, false, "1002 FBE1 FFFF");
+        Bench one = new Bench().lines(4, "0041;[.1000.0000.0000]", "0041 0001;[.1001.0000.0000]", "0001;[.1002.0000.0000]").sealed();
+        key(one, "0041", 1, false, "1000");
+        key(one, "0041 0001", 1, false, "1001");
+        key(one, "0001 0041", 1, false, "1002 1000");
+        Bench last = new Bench().lines(0, "0301;Mn;230;;;;", "0323;Mn;220;;;;").lines(4, "0041;[.1000.0000.0000]", "0041 0301;[.1001.0000.0000]").sealed();
+        key(last, "0041 0323 0301", 1, false, "1001 FBC0 8323");
+        Bench marks = new Bench().lines(0, "0301;Mn;230;;;;", "0323;Mn;220;;;;", "0331;Mn;220;;;;", "0327;Mn;1;;;;", "0345;Mn;254;;;;");
+        marks.lines(4, "0041;[.1000.0000.0000]", "0041 0323;[.1001.0000.0000]", "0041 0301;[.1002.0000.0000]", "0041 0323 0301;[.1003.0000.0000]",
+            "0041 0345;[.1004.0000.0000]", "0041 0327;[.1005.0000.0000]", "0301;[.2001.0000.0000]", "0323;[.2002.0000.0000]",
+            "0331;[.2003.0000.0000]", "0327;[.2004.0000.0000]", "0345;[.2005.0000.0000]").sealed();
+        key(marks, "0041 0331 0323", 1, false, "1000 2003 2002");
+        key(marks, "0041 0331 0301", 1, false, "1002 2003");
+        key(marks, "0041 0331 0301 0345", 1, false, "1002 2003 2005");
+        key(marks, "0041 0323 0331 0301", 1, false, "1003 2003");
+        key(marks, "0041 0323 0323 0301", 1, false, "1003 2002");
+        key(marks, "0041 0323 0301 0301", 1, false, "1003 2001");
+        key(marks, "0041 0345", 1, false, "1004");
+        key(marks, "0041 0331 0345", 1, false, "1004 2003");
+        key(marks, "0041 0327", 1, false, "1005");
+        key(marks, "0041 0331 0042 0301", 1, false, "1000 2003 FBC0 8042 2001");
+        passedOver();
+    }
+
+    /** What was passed over keeps its classes when it is looked at in its turn. */
+    private static void passedOver() {
+        Bench b = new Bench().lines(0, "0301;Mn;230;;;;", "0323;Mn;220;;;;", "0331;Mn;220;;;;", "0327;Mn;202;;;;");
+        b.lines(4, "0041;[.1000.0000.0000]", "0041 0301;[.1001.0000.0000]", "0327;[.2000.0000.0000]", "0327 0331;[.2001.0000.0000]",
+            "0323;[.2002.0000.0000]", "0331;[.2003.0000.0000]").sealed();
+        key(b, "0041 0327 0323 0331 0301", 1, false, "1001 2000 2002 2003");
+        key(b, "0041 0327 0331 0323 0301", 1, false, "1001 2001 2002");
+        key(b, "0041 0327 0323 0301", 1, false, "1001 2000 2002");
+    }
+
     private static void contractions() {
         Bench b = rows().lines(4, "0041 0042;[.2000.0020.0008]", "0041 0042 0043;[.2100.0020.0008]", "0042 0043 0044;[.2200.0020.0008]");
         b.sealed();
@@ -119,6 +204,11 @@ final class CollationTest {
         key(b, "0000", 4, true, "0000 0000 0000");
         key(b, "0009 0020 0009 002D", 4, true, "0000 0000 0005 0000 FFFF 0209 020D");
         key(b, "0020 0301 0041 0301 0301", 2, true, "1000 0000 0020 0024 0024");
+        key(b, "0020", 4, true, "0000 0000 0000 0209");
+        key(b, "0301", 4, true, "0000 0024 0000 0002 0000 FFFF");
+        b.put(0, "0020").put(1, "0301");
+        Bench.due("no text is behind another", b.atlas.compare(0, 1, 2, true), -1);
+        Bench.due("turned", b.atlas.compare(1, 0, 2, true), 1);
         Bench zero = rows().lines(4, "0050;[*0000.0010.0002]").sealed();
         key(zero, "0050 0301", 4, true, "0000 0010 0024 0000 0002 0002 0000 FFFF FFFF");
         key(zero, "0020 0050", 4, true, "0000 0000 0000 0209");

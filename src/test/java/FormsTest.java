@@ -7,6 +7,7 @@ final class FormsTest {
         hangul();
         toldClassesOfHangul();
         order();
+        allOrders();
         is();
         join();
         limits();
@@ -117,6 +118,12 @@ final class FormsTest {
         form(high, 2, "0041 1100 1161 030A", "0041 AC00 030A");
         form(high, 2, "0041 1100 0323 1161 030A", "0041 AC00 0323 030A");
         form(high, 2, "0041 0323 030A", "00C5 0323");
+        Bench vowel = new Bench().lines(0, "AC00;Lo;9;;;;", "00C5;Lu;0;0041 030A;;;", "030A;Mn;230;;;;").sealed();
+        form(vowel, 2, "0041 1100 1161 030A", "00C5 AC00");
+        form(vowel, 2, "1100 1161 030A", "AC00 030A");
+        form(vowel, 2, "0041 0042 1100 1161 030A", "0041 0042 AC00 030A");
+        Bench same = new Bench().lines(0, "AC00;Lo;1;;;;", "1161;Lo;5;;;;", "0331;Mn;5;;;;", "00C5;Lu;0;0041 0331;;;").sealed();
+        form(same, 2, "0041 1100 1161 0331", "00C5 AC00");
     }
 
     private static void order() {
@@ -127,6 +134,30 @@ final class FormsTest {
         b.grow(0, "0301 0323", 9);
         Bench.due("long run, first", b.atlas.point(0, 511), 0x0323);
         Bench.due("long run, second", b.atlas.point(0, 512), 0x0301);
+    }
+
+    /** Marks of classes 1, 2, 2, 3, 254 in every order: the two of one class keep theirs. */
+    private static void allOrders() {
+        int[] marks = {0x301, 0x302, 0x303, 0x304, 0x305};
+        Bench b = new Bench();
+        for (int k = 0; k < 120; k++) {
+            if (k % 20 == 0) {
+                b = new Bench().lines(0, "0301;Mn;1;;;;", "0302;Mn;2;;;;", "0303;Mn;2;;;;", "0304;Mn;3;;;;", "0305;Mn;254;;;;").sealed();
+            }
+            java.util.List<Integer> left = new java.util.ArrayList<>();
+            for (int mark : marks) {
+                left.add(mark);
+            }
+            StringBuilder points = new StringBuilder("41");
+            int code = k;
+            for (int n = 5; n > 0; n--) {
+                points.append(' ').append(Integer.toHexString(left.remove(code % n)));
+                code /= n;
+            }
+            boolean turned = points.indexOf("303") < points.indexOf("302");
+            b.put(1, points.toString()).atlas.normal(0, 1, 0);
+            Bench.due("order of " + points, b.show(0), turned ? "0041 0301 0303 0302 0304 0305" : "0041 0301 0302 0303 0304 0305");
+        }
     }
 
     private static void is() {

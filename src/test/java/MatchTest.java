@@ -3,6 +3,7 @@ final class MatchTest {
     public static void main(String[] args) {
         throwing();
         kinds();
+        steps();
         limits();
         Bench.finish();
     }
@@ -48,6 +49,32 @@ final class MatchTest {
         match(b, "1FB3", "03B1 03B9", false, true, true);
         match(b, "33A8", "006D 03C9", false, false, true);
         match(b, "33A8", "006D 03A9", false, false, true);
+    }
+
+    /** How often each kind folds and decomposes: chains in which each step leads one further. */
+    private static void steps() {
+        Bench b = new Bench().lines(2, "0041;C;0042", "0042;C;0043", "0043;C;0044", "0044;C;0045");
+        b.lines(0, "0051;Lu;0;0052;;;", "0053;Lu;0;<x>0054;;;").lines(2, "0052;C;0051", "0054;C;0053", "0061;C;0053", "0071;C;0051").sealed();
+        match(b, "0041", "0042", false, false, false);
+        match(b, "0041", "0043", false, false, false);
+        match(b, "0042", "0043", false, false, false);
+        match(b, "0043", "0044", false, false, true);
+        match(b, "0043", "0045", false, false, true);
+        match(b, "0044", "0045", true, true, true);
+        match(b, "0051", "0052", true, true, true);
+        match(b, "0071", "0051", true, true, true);
+        match(b, "0071", "0052", true, true, true);
+        match(b, "0053", "0054", true, true, true);
+        match(b, "0061", "0053", true, true, true);
+        match(b, "0061", "0054", true, true, true);
+        Bench last = new Bench().lines(0, "0041;Lu;0;0042;;;", "0043;Lu;0;<x>0044;;;").lines(2, "0051;C;0041", "0052;C;0043", "0053;C;0042", "0054;C;0044");
+        last.sealed();
+        match(last, "0051", "0042", false, true, true);
+        match(last, "0051", "0053", false, true, true);
+        match(last, "0052", "0044", false, false, true);
+        match(last, "0052", "0054", false, false, true);
+        match(last, "0041", "0042", false, true, true);
+        match(last, "0043", "0044", false, false, true);
     }
 
     private static void limits() {

@@ -72,7 +72,11 @@ final class PlainAtlasTest {
         }
     }
 
+    /** Nothing at all once the run has had its calls: what later ones answer is free. */
     private String call(Map<String, Integer> seen, String name, Object... args) {
+        if (calls >= CALLS) {
+            return "";
+        }
         calls++;
         String got = answer(real, REAL.get(name), args);
         String want = answer(plain, PLAIN.get(name), args);
@@ -272,7 +276,7 @@ final class PlainAtlasTest {
             case 17 -> call(seen, "next", t, upTo(1), place(t), random.nextBoolean());
             case 18 -> {
                 call(seen, "key", t, 1 + upTo(3), random.nextBoolean());
-                wholeResult(seen);
+                someWords(seen);
             }
             case 19 -> call(seen, "compare", t, u, 1 + upTo(3), random.nextBoolean());
             case 20, 21 -> call(seen, "about", random.nextInt(90) == 0 ? -1 : point(), upTo(7));
@@ -290,13 +294,15 @@ final class PlainAtlasTest {
         }
     }
 
-    /** All words of the key, the later ones beside the count of calls: they change nothing. */
-    private void wholeResult(Map<String, Integer> seen) {
-        int before = calls;
-        for (int i = 0; i < plain.count(1) + 1; i += 8) {
-            call(seen, "word", i);
+    /** The first word, the last one, what is behind it, and some between. */
+    private void someWords(Map<String, Integer> seen) {
+        int many = plain.count(1);
+        call(seen, "word", 0);
+        call(seen, "word", many - 1);
+        call(seen, "word", many);
+        for (int k = 0; k < 5; k++) {
+            call(seen, "word", random.nextInt(many + 1));
         }
-        calls = before;
     }
 
     private void fromTape(Map<String, Integer> seen, int t) {

@@ -2,7 +2,9 @@
 final class TapeTest {
     public static void main(String[] args) {
         newObject();
+        twoObjects();
         feedAndEnd();
+        feedBytes();
         fullTape();
         reset();
         counts();
@@ -37,6 +39,50 @@ final class TapeTest {
         Bench.due("last byte", x.point(0, 21), 0x62);
         Bench.due("read tape is empty", x.count(0), 0);
         Bench.due("end of nothing", x.end(0), 0);
+    }
+
+    /** Nothing of one object is seen in another. */
+    private static void twoObjects() {
+        Bench one = new Bench();
+        Bench two = new Bench();
+        one.lines(0, "0041;Lu;9;;;;").lines(3, "0041;Cased").sealed().put(0, "41").tape("abc").atlas.bytes(0);
+        for (int what = 0; what < 4; what++) {
+            Bench.due("count " + what + " of the other", two.atlas.count(what), 0);
+        }
+        Bench.due("text of the other", two.atlas.size(0), 0);
+        two.sealed();
+        Bench.due("data of the other", two.atlas.about(0x41, 1), 0);
+        two.put(0, "42 43").atlas.reset();
+        Bench.due("text of the one", one.show(0), "0041");
+        Bench.due("data of the one", one.atlas.about(0x41, 1), 9);
+        Bench.due("tape of the one", one.atlas.count(0), 3);
+        Bench.due("result of the one", one.result(), "41");
+    }
+
+    /** Every byte value at every place of the five ints comes to the tape as it is. */
+    private static void feedBytes() {
+        TextAtlas x = new TextAtlas();
+        x.feed(0xC280DFBF, 0xE0A080ED, 0x9FBFEE80, 0x80EFBFBF, 0xF0908080);
+        x.feed(0xF48FBFBF, 0x00010203, 0x7F7E7D7C, 0x00000000, Integer.MAX_VALUE);
+        Bench.due("length", x.end(36), 36);
+        Bench.due("points", x.text(0), 20);
+        int[] due = {0x80, 0x7FF, 0x800, 0xD7FF, 0xE000, 0xFFFF, 0x10000, 0x10FFFF, 0, 1, 2, 3, 0x7F, 0x7E, 0x7D, 0x7C, 0, 0, 0, 0};
+        for (int i = 0; i < due.length; i++) {
+            Bench.due("point " + i, x.point(0, i), due[i]);
+        }
+        for (int place = 0; place < 20; place++) {
+            int[] ints = new int[5];
+            ints[place / 4] = 0x41 << 24 - 8 * (place % 4);
+            TextAtlas y = new TextAtlas();
+            y.feed(ints[0], ints[1], ints[2], ints[3], ints[4]);
+            y.text(1);
+            Bench.due("byte " + place, y.point(1, place), 0x41);
+        }
+        for (int value : new int[] {-1, Integer.MIN_VALUE, 0xFF, 0x80}) {
+            TextAtlas y = new TextAtlas();
+            Bench.due("feed of " + value, y.feed(value, value, value, value, value), 20);
+            Bench.unsupported("text of " + value, () -> y.text(0));
+        }
     }
 
     private static void fullTape() {

@@ -1,15 +1,23 @@
+import java.nio.ByteBuffer;
+import java.nio.charset.CharacterCodingException;
+import java.nio.charset.StandardCharsets;
+import java.util.ArrayList;
 import java.util.Arrays;
+import java.util.List;
 
 /** Promises 7 (text), 8 (add), 9 (part), 10 (point), 11 (size), 22 (bytes) and 23 (word). */
 final class TextTest {
     public static void main(String[] args) {
         text();
         badText();
+        allBeginnings();
         longText();
         addAndPoint();
         part();
         bytes();
+        roundTrips();
         word();
+        everyWord();
         Bench.finish();
     }
 
@@ -42,6 +50,54 @@ final class TextTest {
         }
         b.tape("\u00c2\u0080").atlas.end(1);
         Bench.unsupported("what was cut is not read", () -> b.atlas.text(1));
+    }
+
+    /** Every row of two bytes, and those of three and four around each bound, as the library's decoder has them. */
+    private static void allBeginnings() {
+        List<byte[]> all = new ArrayList<>();
+        for (int a = 0; a < 256; a++) {
+            all.add(new byte[] {(byte) a});
+            for (int b = 0; b < 256; b++) {
+                all.add(new byte[] {(byte) a, (byte) b});
+            }
+        }
+        int[] second = {0x7F, 0x80, 0x8F, 0x90, 0x9F, 0xA0, 0xBF, 0xC0};
+        int[] later = {0x7F, 0x80, 0xBF, 0xC0};
+        for (int a = 0xE0; a < 0x100; a++) {
+            for (int b : second) {
+                for (int c : later) {
+                    all.add(new byte[] {(byte) a, (byte) b, (byte) c});
+                    for (int d : later) {
+                        all.add(new byte[] {(byte) a, (byte) b, (byte) c, (byte) d});
+                    }
+                }
+            }
+        }
+        Bench bench = new Bench();
+        for (int k = 0; k < all.size(); k++) {
+            bench = k % 60 == 0 ? new Bench() : bench;
+            decoded(bench, all.get(k));
+        }
+    }
+
+    private static void decoded(Bench b, byte[] bytes) {
+        String want = "UnsupportedOperationException";
+        try {
+            String text = StandardCharsets.UTF_8.newDecoder().decode(ByteBuffer.wrap(bytes)).toString();
+            want = text.codePoints().boxed().toList().toString();
+        } catch (CharacterCodingException e) {
+            // What the decoder refuses is no UTF-8.
+        }
+        b.tape(bytes);
+        String got = Bench.answer(() -> {
+            List<Integer> points = new ArrayList<>();
+            int many = b.atlas.text(0);
+            for (int i = 0; i < many; i++) {
+                points.add(b.atlas.point(0, i));
+            }
+            return points;
+        });
+        Bench.due("text of " + Arrays.toString(bytes), got, want);
     }
 
     private static void longText() {
@@ -113,6 +169,36 @@ final class TextTest {
         Bench.argument("slot -1", () -> x.bytes(-1));
         Bench.due("bytes of nothing", x.bytes(3), 0);
         Bench.due("result is empty", x.count(1), 0);
+    }
+
+    /** The first and the last of each width, as the library's encoder has them, and back. */
+    private static void roundTrips() {
+        int[] points = {0, 1, 0x7E, 0x7F, 0x80, 0x81, 0xFF, 0x100, 0x7FE, 0x7FF, 0x800, 0x801, 0xFFF, 0x1000, 0xCFFF, 0xD000, 0xD7FF, 0xE000, 0xFFFE,
+            0xFFFF, 0x10000, 0x10001, 0x3FFFF, 0x40000, 0xFFFFF, 0x100000, 0x10FFFE, 0x10FFFF};
+        Bench b = new Bench();
+        for (int point : points) {
+            b.put(0, Integer.toHexString(point));
+            byte[] bytes = new String(Character.toChars(point)).getBytes(StandardCharsets.UTF_8);
+            Bench.due("bytes of " + point, b.atlas.bytes(0), bytes.length);
+            long word = 0;
+            for (int k = 0; k < 8; k++) {
+                word = word << 8 | (k < bytes.length ? bytes[k] & 0xFF : 0);
+            }
+            Bench.due("word of " + point, b.atlas.word(0), word);
+            Bench.due("text of " + point, b.tape(bytes).atlas.text(1), 1);
+            Bench.due("back to " + point, b.atlas.point(1, 0), point);
+        }
+    }
+
+    /** From every byte of a result of 20 on: eight bytes, then ever more zeros. */
+    private static void everyWord() {
+        Bench b = new Bench().put(0, "10FFFF 10FFFE 10FFFD 10FFFC 10FFFB");
+        Bench.due("bytes", b.atlas.bytes(0), 20);
+        String hex = "F48FBFBFF48FBFBEF48FBFBDF48FBFBCF48FBFBB" + "00".repeat(8);
+        for (int i = 0; i < 20; i++) {
+            Bench.due("word " + i, String.format("%016X", b.atlas.word(i)), hex.substring(2 * i, 2 * i + 16));
+        }
+        Bench.bounds("word 20", () -> b.atlas.word(20));
     }
 
     private static void word() {
