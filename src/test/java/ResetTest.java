@@ -95,10 +95,15 @@ final class ResetTest {
         heavy.sealed().atlas.reset();
         Bench.due("behind a life of all kinds of lines", new Scene(heavy, true).all(), fresh);
         Bench cuts = new Bench();
-        for (int i = 0; i < 12; i++) {
-            cuts.lines(2, String.format("%04X;F;0001", 0x40 + 2 * i), String.format("%04X;C;0001", 0x40 + 2 * i), String.format("%04X;T;0001", 0x40 + 2 * i));
-            cuts.lines(1, String.format("%04X;0001;0001;0001;", 0x40 + 2 * i)).lines(3, String.format("%04X;WB=CR", 0x40 + 2 * i));
+        for (int point = 0x40; point < 0x50; point += 2) {
+            String code = String.format("%04X", point);
+            for (String letter : new String[] {"C", "F", "T"}) {
+                cuts.shortLine(2, code + ";" + letter + ";0001");
+            }
+            cuts.shortLine(1, code + ";0001;0001;;");
+            cuts.shortLine(3, code + ";WB=CR");
         }
+        Bench.due("lines of many cuts", cuts.atlas.count(2), 40);
         cuts.atlas.reset();
         Bench.due("behind a life of many cuts", new Scene(cuts, true).all(), fresh);
         Bench once = new Bench().lines(4, "0042;" + ELEMENT, "0043;" + ELEMENT);
