@@ -128,6 +128,9 @@ final class CollationTest {
         key(ends, "0000 0000", 1, false, "1001");
         key(ends, "0000 0000 0000", 1, false, "1001 1000");
         key(ends, "10FFFF 10FFFF 10FFFF 10FFFF", 1, false, "1002 FBE1 FFFF");
+        Bench fourth = new Bench().lines(4, "0060 0042 0043;[.1000.0000.0000]").sealed();
+        key(fourth, "0040 0042 0043 000F", 1, false, "FBC0 8040 FBC0 8042 FBC0 8043 FBC0 800F");
+        key(fourth, "0060 0042 0043 000F", 1, false, "1000 FBC0 800F");
         Bench one = new Bench().lines(4, "0041;[.1000.0000.0000]", "0041 0001;[.1001.0000.0000]", "0001;[.1002.0000.0000]").sealed();
         key(one, "0041", 1, false, "1000");
         key(one, "0041 0001", 1, false, "1001");
