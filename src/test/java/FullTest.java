@@ -396,6 +396,10 @@ final class FullTest {
             Bench.due("2000 times 18 elements", x.compare(0, 0, strength, true), 0);
             Bench.due("and other ones", x.compare(0, 1, strength, false), -1);
         }
+        Bench zeros = new Bench().lines(4, "0078;" + "[.0101.0000.0000]".repeat(18)).sealed().write(0, "x".repeat(2000));
+        zeros.atlas.part(1, 0, 0, 1999);
+        Bench.due("nothing but zeros at the second level", zeros.atlas.compare(0, 0, 2, false), 0);
+        Bench.due("and at the third", zeros.atlas.compare(0, 1, 3, false), 1);
     }
 
     /** As many lines as 512 calls can bring: of two calls each, and at last seal and a look. */
